@@ -411,7 +411,7 @@ public final class NumberContents {
         }
 
         boolean isMinus(int a) {
-            return highByte(a, 0) >= 128;
+            return lowByte(a, sizeOf(a) - 1) >= 128;
         }
 
         int highByte(int a, int i) {
@@ -419,7 +419,7 @@ public final class NumberContents {
         }
 
         int lowByte(int a, int i) {
-            return i >= 0 && i < sizeOf(a) ? items[a * MOST_BYTES + i] : 0;
+            return has(a) && i >= 0 && i < sizes[a] ? items[a * MOST_BYTES + i] : 0;
         }
 
         int add(Wide from, int n) {
