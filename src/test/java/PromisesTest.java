@@ -1,8 +1,8 @@
-import java.lang.reflect.Constructor;
-import java.lang.reflect.Field;
-import java.lang.reflect.Method;
+import java.lang.reflect.Member;
 import java.lang.reflect.Modifier;
 import java.math.BigInteger;
+import java.util.ArrayList;
+import java.util.List;
 import java.util.Set;
 import java.util.TreeSet;
 
@@ -10,6 +10,29 @@ import java.util.TreeSet;
 public final class PromisesTest extends Calls {
     private static final BigInteger LONG = new BigInteger("123456789012345678901234567890");
     private static final BigInteger LONG_MINUS = new BigInteger("-99999999999999999999999");
+
+    /** The document's lines, as Java itself writes them of the class: with the exceptions, in their order. */
+    private static final String[] FACE = {
+        "public final class NumberContents",
+        "public static final int NONE",
+        "public NumberContents()",
+        "public int digits(int,int) throws IllegalArgumentException,IllegalStateException",
+        "public int number(boolean) throws IllegalStateException,UnsupportedOperationException",
+        "public int bytes(int,int) throws IllegalArgumentException,IllegalStateException",
+        "public int contents() throws IllegalStateException,IllegalArgumentException,UnsupportedOperationException",
+        "public int sum(int,int,boolean) throws IndexOutOfBoundsException,UnsupportedOperationException",
+        "public int grow(int,int,int) throws IndexOutOfBoundsException,UnsupportedOperationException",
+        "public int size(int) throws IndexOutOfBoundsException",
+        "public int byteAt(int,int) throws IndexOutOfBoundsException",
+        "public int compare(int,int) throws IndexOutOfBoundsException",
+        "public int small(int) throws IndexOutOfBoundsException,IllegalArgumentException",
+        "public int print(int) throws IndexOutOfBoundsException",
+        "public int groups(int) throws IndexOutOfBoundsException,IllegalArgumentException",
+        "public int out(int) throws IndexOutOfBoundsException",
+        "public int back() throws IllegalArgumentException,UnsupportedOperationException",
+        "public int clear()",
+        "public int count(int)",
+    };
 
     private PromisesTest() {
     }
@@ -37,23 +60,26 @@ public final class PromisesTest extends Calls {
     }
 
     private static void face() {
-        Set<String> names = new TreeSet<>();
-        for (Method m : NumberContents.class.getDeclaredMethods()) {
-            if (!Modifier.isPrivate(m.getModifiers())) {
-                names.add(m.getName());
+        Class<NumberContents> face = NumberContents.class;
+        List<Member> members = new ArrayList<>();
+        members.addAll(List.of(face.getDeclaredFields()));
+        members.addAll(List.of(face.getDeclaredConstructors()));
+        members.addAll(List.of(face.getDeclaredMethods()));
+        Set<String> lines = new TreeSet<>();
+        lines.add(face.toGenericString());
+        for (Member member : members) {
+            if (!Modifier.isPrivate(member.getModifiers())) {
+                lines.add(member.toString().replace("java.lang.", "").replace("NumberContents.", ""));
             }
         }
-        for (Field f : NumberContents.class.getDeclaredFields()) {
-            if (!Modifier.isPrivate(f.getModifiers())) {
-                names.add(f.getName());
-            }
-        }
-        Report.same("the face", names.toString(), "[NONE, back, byteAt, bytes, clear, compare, contents, count, digits, groups, "
-                + "grow, number, out, print, size, small, sum]");
-        for (Constructor<?> c : NumberContents.class.getDeclaredConstructors()) {
-            Report.same("the constructor's parameters", Integer.toString(c.getParameterCount()), "0");
-        }
+        Set<String> due = new TreeSet<>(List.of(FACE));
+        Report.same("the face", String.join("\n", lines), String.join("\n", due));
         Report.same("NONE", Integer.toString(NumberContents.NONE), "-1");
+        for (Class<?> inside : face.getDeclaredClasses()) {
+            Report.same("a class inside, " + inside.getSimpleName() + ", is static and not public",
+                    Boolean.toString(Modifier.isStatic(inside.getModifiers()) && !Modifier.isPublic(inside.getModifiers())
+                            && !Modifier.isProtected(inside.getModifiers())), "true");
+        }
     }
 
     private static void promise1NewObject() {
